@@ -422,7 +422,7 @@ public final class PaperBoatInsurer {
     }
 
     private static void closeGap(int[] row, int index) {
-        for (int i = Math.max(0, index); i < row.length - 1; i++) {
+        for (int i = index; i >= 0 && i < row.length - 1; i++) {
             row[i] = row[i + 1];
         }
     }
@@ -1096,16 +1096,13 @@ public final class PaperBoatInsurer {
         }
 
         private static int deductible(char cause, int damage) {
-            switch (cause) {
-                case 'g':
-                    return 2;
-                case 'w':
-                    return (damage + 9) / 10;
-                case 'f':
-                    return damage / 4 + 1;
-                default:
-                    return 0;
+            if (cause == 'g') {
+                return 2;
             }
+            if (cause == 'w') {
+                return (damage + 9) / 10;
+            }
+            return cause == 'f' ? damage / 4 + 1 : 0;
         }
 
         int payPart(int claim, int coins) {
@@ -1351,14 +1348,10 @@ public final class PaperBoatInsurer {
 
         /** Returns what stands for the sign of a form, as a number, or NONE if nothing does. */
         private int readSign(char sign) {
-            switch (sign) {
-                case 'N':
-                    return readNumber();
-                case 'D':
-                    return readDigit();
-                default:
-                    return readCharacter(sign);
+            if (sign == 'N') {
+                return readNumber();
             }
+            return sign == 'D' ? readDigit() : readCharacter(sign);
         }
 
         private int readCharacter(char sign) {

@@ -89,8 +89,11 @@ final class ClaimsTest {
     private static void closings() {
         PaperBoatInsurer x = new PaperBoatInsurer();
         x.insure(20, 8, 40);
+        x.insure(3, 8, 40);
+        x.addTreaty(0, 9, 10, 0);
         x.claim(0, 'r', 8);
-        x.claim(0, 'r', 3);
+        x.claim(1, 'g', 5);
+        x.pay(1, 1);
         Check.refused(x, "close unpaid", IllegalStateException.class, () -> x.closeClaim(0));
         x.pay(0, 7);
         Check.refused(x, "close partly paid", IllegalStateException.class, () -> x.closeClaim(0));
@@ -100,9 +103,16 @@ final class ClaimsTest {
         Check.due("claims left", x.claimCount(), 1);
         Check.due("the claim left", x.claimAt(0), 1);
         Check.due("its amount", x.amountOf(1), 3);
-        Check.due("closed ones count", x.sumLeft(0), 9);
+        Check.due("its policy", x.policyOf(1), 1);
+        Check.due("its cause", x.causeOf(1), 'g');
+        Check.due("what was paid of it", x.paidOf(1), 1);
+        Check.due("what a treaty bears of it", x.borneBy(1, 0), 2);
+        Check.due("capacities do not come back", x.capacityOf(0), 0);
+        Check.due("closed ones count", x.sumLeft(0), 12);
         Check.due("the next one", x.claim(0, 'r', 99), 2);
-        Check.due("its amount", x.amountOf(2), 9);
+        Check.due("its amount", x.amountOf(2), 12);
+        Check.due("nothing was paid of it", x.paidOf(2), 0);
+        Check.due("nothing is borne of it", x.borneBy(2, 0), 0);
     }
 
     private static void withdrawals() {

@@ -55,17 +55,22 @@ final class PoliciesTest {
     private static void eightPolicies() {
         PaperBoatInsurer x = new PaperBoatInsurer();
         for (int i = 0; i < 8; i++) {
-            Check.due("id", x.insure(i + 1, i, 10), i);
+            Check.due("id", x.insure(i + 1, i, 10 + i), i);
         }
         Check.refused(x, "the ninth policy", IllegalStateException.class, () -> x.insure(1, 0, 1));
         Check.refused(x, "a wrong ninth policy", IllegalArgumentException.class, () -> x.insure(0, 0, 1));
         x.endPolicy(3);
-        Check.due("id after an ending", x.insure(9, 1, 9), 8);
+        Check.due("id after an ending", x.insure(9, 8, 18), 8);
         int[] ids = {0, 1, 2, 4, 5, 6, 7, 8};
         for (int i = 0; i < 8; i++) {
             Check.due("policyAt", x.policyAt(i), ids[i]);
             Check.due("sum behind the gap", x.sumOf(ids[i]), ids[i] + 1);
+            Check.due("risk behind the gap", x.riskOf(ids[i]), ids[i]);
+            Check.due("end behind the gap", x.endOf(ids[i]), ids[i] + 10);
         }
+        Check.due("premium behind the gap", x.premiumOf(7), 12);
+        Check.due("paid back behind the gap", x.endPolicy(7), 12);
+        Check.due("nothing is claimed of a new policy", x.sumLeft(8), 9);
     }
 
     private static void endings() {
