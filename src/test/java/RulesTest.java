@@ -9,21 +9,30 @@ import java.util.regex.Pattern;
 /** Rules of the language that a search finds, and the room that the dearest calls of a run need. */
 final class RulesTest {
     private static final int CALLS = 512;
-    private static final long MOST_BYTES = 1_000_000;
+    private static final int MOST_CLASSES = 12;
+    private static final int MOST_LINES_OF_METHOD = 60;
+    private static final String THROWN = "IllegalStateException|IllegalArgumentException|IndexOutOfBoundsException"
+            + "|ArithmeticException|UnsupportedOperationException|NoSuchElementException|RuntimeException";
+    /** A run has room for 600,000 objects and 7.3 million elements; an element takes a byte, an object 16, at least. */
+    private static final long MOST_BYTES = 7_300_000;
 
     public static void main(String[] arguments) throws Exception {
-        String code = Files.readString(Path.of("src/main/java/PaperBoatInsurer.java"));
-        code = code.replaceAll("(?s)/\\*\\*.*?\\*/", "");
-        for (String word : List.of("->", "::", "Exact(", "finally", "synchronized", "assert", "instanceof", "var ",
-                "RuntimeException", "Throwable", "getMessage", "protected", "static {", "\" +", "+ \"")) {
+        String code = Files.readString(Path.of("src/main/java/PaperBoatInsurer.java")).replaceAll("(?s)/\\*.*?\\*/", "");
+        for (String word : List.of("::", "Exact(", "finally", "synchronized", "assert ", "Throwable", "getMessage",
+                "protected ", "static {", "\" +", "+ \"", "package ")) {
             Check.holds("the code is without " + word, !code.contains(word));
         }
+        Check.holds("the code has no lambda", !Pattern.compile("(?m)^(?!\\s*(case|default)).*->").matcher(code).find());
         Check.holds("the code is ASCII", code.chars().allMatch(character -> character < 127));
-        all(code, "import ([\\w.]+);", Set.of("java.util.Arrays", "java.util.NoSuchElementException"));
+        all(code, "import ([\\w.]+);", Set.of("java.util.Arrays", "java.util.ArrayList", "java.util.List",
+                "java.util.Iterator", "java.util.NoSuchElementException"));
         all(code, "catch \\((\\w+) ", Set.of("IllegalArgumentException", "IllegalStateException",
                 "NoSuchElementException", "UnsupportedOperationException"));
-        all(code, "throw (new \\w+\\(\"[a-z0-9, ]+\"\\);)?", null);
-        Check.holds("at most twelve classes", count(code, "\\b(class|enum|interface|record) [A-Z]") <= 12);
+        Check.due("throw statements of another form", count(code, "\\bthrow ")
+                - count(code, "\\bthrow new (" + THROWN + ")\\((\"[^\"]*\")?\\);"), 0);
+        Check.holds("at most twelve classes", count(code, "\\b(class|enum|interface|record) [A-Z]") <= MOST_CLASSES);
+        Check.due("methods with more than seven parameters", count(code, "\\w\\((?:[^(),]+,){7,}[^(),]+\\)[^;{]*\\{"), 0);
+        lengths(code);
         room();
         Check.end();
     }
@@ -31,13 +40,23 @@ final class RulesTest {
     private static void all(String code, String pattern, Set<String> allowed) {
         Matcher matcher = Pattern.compile(pattern).matcher(code);
         while (matcher.find()) {
-            String found = matcher.group(1);
-            Check.holds(pattern + " finds " + found, found != null && (allowed == null || allowed.contains(found)));
+            Check.holds(pattern + " finds " + matcher.group(1), allowed.contains(matcher.group(1)));
         }
     }
 
     private static int count(String code, String pattern) {
         return (int) Pattern.compile(pattern).matcher(code).results().count();
+    }
+
+    /** A method begins with a head that ends in a brace and ends with a brace that stands as far to the right. */
+    private static void lengths(String code) {
+        Matcher matcher = Pattern.compile("(?m)^( {4}| {8})(\\w[^;{}=]*\\)[^;{}=]*)\\{\n((?:\\1 .*\n|\n)*)\\1\\}").matcher(code);
+        int methods = 0;
+        while (matcher.find()) {
+            methods++;
+            Check.holds("length of " + matcher.group(2), matcher.group(3).lines().count() <= MOST_LINES_OF_METHOD);
+        }
+        Check.holds("methods are found", methods > 0);
     }
 
     /** The first round loads the classes, so only the second one is measured. */
