@@ -11,6 +11,7 @@ import java.util.TreeSet;
 /** The public face of the document, word by word, and nothing beside it. */
 final class FaceTest {
     public static void main(String[] arguments) throws Exception {
+        Check.begin();
         Set<String> due = new TreeSet<>();
         for (String line : Files.readAllLines(Path.of(arguments.length > 0 ? arguments[0] : "../shared/DOC.md"))) {
             if (line.startsWith("    public ") && !line.contains("public PaperBoatInsurer(")) {

@@ -10,6 +10,7 @@ final class FormsTest {
         "wait 1;wait 1;wait 1;wait 1;wait 1;wait 1;wait 1;offer 1-2 3"};
 
     public static void main(String[] arguments) {
+        Check.begin();
         look("");
         for (String script : SCRIPTS) {
             look(script);

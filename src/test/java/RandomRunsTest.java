@@ -38,6 +38,7 @@ final class RandomRunsTest {
     }
 
     public static void main(String[] arguments) throws Exception {
+        Check.begin();
         for (Method method : PaperBoatInsurer.class.getDeclaredMethods()) {
             if (java.lang.reflect.Modifier.isPublic(method.getModifiers())) {
                 OF_CLASS.put(method.getName(), method);
@@ -53,8 +54,8 @@ final class RandomRunsTest {
         for (int i = 0; i < runs && wrongRuns < SHOWN; i++) {
             new RandomRunsTest(seed + i).run();
         }
-        System.out.println(wrongRuns + " runs with a wrong answer");
-        System.exit(wrongRuns > 0 ? 1 : 0);
+        Check.due("the number of runs with a wrong answer", wrongRuns, 0);
+        Check.end();
     }
 
     private void run() throws Exception {

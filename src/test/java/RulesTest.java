@@ -17,6 +17,7 @@ final class RulesTest {
     private static final long MOST_BYTES = 7_300_000;
 
     public static void main(String[] arguments) throws Exception {
+        Check.begin();
         String code = Files.readString(Path.of("src/main/java/PaperBoatInsurer.java")).replaceAll("(?s)/\\*.*?\\*/", "");
         for (String word : List.of("::", "Exact(", "finally", "synchronized", "assert ", "Throwable", "getMessage",
                 "protected ", "static {", "\" +", "+ \"", "package ")) {

@@ -8,6 +8,7 @@ final class RunsTest {
     private static final int PROMISES = 63;
 
     public static void main(String[] arguments) throws Exception {
+        Check.begin();
         Document document = Document.read(Path.of("../shared/DOC.md"));
         Check.holds("the document has more sentences than promises", document.size() > 2 * PROMISES);
         for (Path file : files()) {
