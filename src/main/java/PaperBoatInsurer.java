@@ -8,6 +8,8 @@ public final class PaperBoatInsurer {
     private static final int MOST_RISK = 8;
     private static final int MOST_TERM = 60;
     private static final int MOST_LOSS = 240;
+    /** The greatest int, since the document sets no bound above; the language leaves no Integer.MAX_VALUE. */
+    private static final int MOST_ASKED_LOSS = 2147483647;
     private static final int RAINS = 8;
     private static final int PREMIUM_DIVISOR = 80;
     private static final int MOST_CLAIMS = 12;
@@ -216,11 +218,11 @@ public final class PaperBoatInsurer {
     }
 
     public long outcomesWithin(int loss) throws IllegalArgumentException {
-        return book.policies.countByTable(checkedNumber(loss, 0, Integer.MAX_VALUE), book.day);
+        return book.policies.countByTable(checkedNumber(loss, 0, MOST_ASKED_LOSS), book.day);
     }
 
     public long outcomesWithinBySets(int loss) throws IllegalArgumentException {
-        return book.policies.countBySets(checkedNumber(loss, 0, Integer.MAX_VALUE), book.day);
+        return book.policies.countBySets(checkedNumber(loss, 0, MOST_ASKED_LOSS), book.day);
     }
 
     public int greatestLoss() {
